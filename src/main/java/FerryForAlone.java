@@ -506,9 +506,6 @@ public final class FerryForAlone {
         if (!within(seed, 0, LAST_SEED) || !within(seeds, 1, MOST_SEEDS) || !within(least, 0, HOURS_OF_GULLS)) {
             return NO;
         }
-        if (!within(part, 0, 1)) {
-            return NO;
-        }
         int enough = 0;
         for (int i = 0; i < seeds; i++) {
             if (fetchedAmongGulls(seed + i) >= least) {

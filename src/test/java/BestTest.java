@@ -42,6 +42,9 @@ public final class BestTest {
         x = Check.strand(0, 30);
         due("not if fewer", x.hide(20, 0), -1);
         due("how many", x.hide(20, 1), 1);
+        x = Check.strand(0, 10, 0, 20, 0, 30, 0, 40, 0, 50, 0, 52);
+        due("of six the last but one", x.hide(60, 0), 4);
+        due("how many", x.hide(60, 1), 5);
         x = Check.strand(0, 10, 0, 50, 0, 52);
         due("hide(1, 0), as many without", x.hide(1, 0), -1);
         due("hide(1, 1)", x.hide(1, 1), 1);
@@ -88,6 +91,13 @@ public final class BestTest {
         x.bay(1, 59);
         due("stand(0, 0)", x.stand(0, 0), -1);
         due("stand(0, 1)", x.stand(0, 1), -1);
+        x = Check.under("gaps 99*(0<place);likes 0;walks 0;", 0, 3, 0, 30);
+        due("at the first place", x.stand(0, 0), 0);
+        due("at the first place", x.stand(0, 1), 5);
+        x = Check.under("gaps 99*(place<63);likes 0;walks 0;", 0, 3, 0, 30);
+        due("at the last place", x.stand(0, 0), 63);
+        x = Check.under("gaps 99*(place<64);likes 0;walks 0;", 0, 3, 0, 30);
+        due("not behind the last place", x.stand(0, 0), -1);
         x = Check.under("gaps 0;likes 0;walks 22=place;", 0, 3);
         x.bay(1, 1);
         due("it walks meanwhile", x.stand(0, 0), 22);
@@ -113,6 +123,14 @@ public final class BestTest {
         x.put(1, 0, 2);
         due("below 0 there is no place", x.apart(0, 0), 6);
         due("which", x.apart(0, 1), 7);
+        x.put(0, 0, 4);
+        x.put(1, 0, 5);
+        due("to the first place", x.apart(0, 0), 4);
+        due("which", x.apart(0, 1), 0);
+        x.put(0, 0, 59);
+        x.put(1, 0, 58);
+        due("to the last place", x.apart(0, 0), 4);
+        due("which", x.apart(0, 1), 63);
         x.put(0, 0, 62);
         x.put(1, 0, 61);
         due("above 63 there is no place", x.apart(0, 0), 6);
@@ -195,6 +213,9 @@ public final class BestTest {
         x = Check.strand(0, 30, 0, 10, 0, 30, 0, 10);
         due("two times two", x.gap(0), 10);
         due("how far", x.gap(1), 20);
+        x = Check.strand(0, 20, 0, 10, 0, 30);
+        due("the first one stands between", x.gap(0), 2);
+        due("how far", x.gap(1), 10);
         x = Check.strand(0, 63, 0, 30, 0, 0, 0, 30, 0, 62, 0, 33);
         due("one at each end", x.gap(0), 21);
         due("how far", x.gap(1), 30);

@@ -129,7 +129,12 @@ public final class GullsTest {
         due("nobody", x.told(0, 0), -5);
         due("a new one is the first again", x.traveller(12, 40), 0);
         due("of the new kind", x.told(0, 3), 1);
+        x.put(0, 1, 1);
+        x.put(0, 2, 9);
         due("back() once more", x.back(), 0);
+        x.traveller(0, 0);
+        due("a new one isn't hidden as the one that came since was", x.told(0, 1), 0);
+        due("nor has it waited as that one had", x.told(0, 2), 0);
     }
 
     private static void imageOfAll() {

@@ -25,6 +25,7 @@ public final class HostTest {
         for (int s = 0; s < 4; s++) {
             for (int sort = 0; sort < 3; sort++) {
                 due("sheet(" + s + ", " + sort + ", 40)", x.sheet(s, sort, 40), 1);
+                due("the first cell", x.cell(s, 0, 1), 1);
                 due("the last cell", x.cell(s, 39, 1), 1);
                 due("behind it", x.cell(s, 40, 1), -12);
                 due("of its sort", x.peopleBy(s, sort, 0, 0), 0);

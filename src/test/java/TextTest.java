@@ -17,7 +17,7 @@ public final class TextTest {
         CHECK.about("promise 6");
         FerryForAlone x = Check.strand(0, 0);
         for (int t = 1; t < 6; t++) {
-            CHECK.due("text " + t, Check.read(x, "gaps " + 2 * t + ";likes 0;walks 0;"), t);
+            CHECK.due("text " + t, Check.read(x, "gaps " + 2 * t + ";likes 3+" + t + ";walks -" + t + "-1;"), t);
             CHECK.due("the tape is empty then", x.count(5), 0);
             if (t == 2) {
                 CHECK.due("a fault", Check.read(x, "gaps !;likes 0;walks 0;"), -105);
@@ -32,7 +32,9 @@ public final class TextTest {
         CHECK.due("the law is the first", x.count(4), 0);
         for (int t = 1; t < 6; t++) {
             x.force(t);
-            CHECK.due("the gap by text " + t, x.asks(0, 0), 2 * t);
+            CHECK.due("gaps of text " + t, x.asks(0, 0), 2 * t);
+            CHECK.due("likes of text " + t, x.asks(1, 0), 3 + t);
+            CHECK.due("walks of text " + t, x.asks(2, 0), -t - 1);
         }
         StringBuilder longest = new StringBuilder("gaps 1");
         while (longest.length() + 2 + REST.length() <= 160) {
@@ -202,6 +204,15 @@ public final class TextTest {
         fault("gapz 5", 0);
         fault("  gapz 5", 2);
         fault("gap 5", 0);
+        fault("gapsz 5", 0);
+        fault("gapsa 5", 0);
+        fault("xaps 5", 0);
+        fault("gaps xlace;", 5);
+        fault("gaps plaxe;", 5);
+        fault("gaps placx;", 5);
+        fault("gaps x;", 5);
+        fault("gaps 1 ar 1;", 7);
+        fault("gaps 1 os 1;", 7);
         fault("gapss 5", 0);
         fault("gaps 12345 ;", 5);
         fault("gaps 00000 ;", 5);

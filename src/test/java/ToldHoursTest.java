@@ -108,6 +108,9 @@ public final class ToldHoursTest {
         Check.tell(x, 0, 1, 0, 2);
         due("one is, and is back soon", x.places(0, 0), ((1L << 20) - 1) << 22 & ~near);
         due("one stays", x.told(0, 0), 30);
+        x.put(1, 0, 2);
+        Check.tell(x, 0, 1);
+        due("at none of the first seven, and at all to the last", x.places(0, 0), ~127L);
         Check.tell(x, 0, 7);
         due("by none", x.places(0, 0), 0);
         x.put(1, 1, 1);
