@@ -52,7 +52,9 @@ final class Check {
     /** A new object whose law is such a text, with people. */
     static FerryForAlone under(String law, int... kindMoreAndPlace) {
         FerryForAlone x = strand(kindMoreAndPlace);
-        x.force(read(x, law));
+        if (x.force(read(x, law)) != 0) {
+            throw new IllegalArgumentException("no text: " + law);
+        }
         return x;
     }
 
