@@ -663,7 +663,6 @@ public final class TextSentencesTest {
         stands("(1)+(1)+(1)+(1)+(1)+(1)+(1)");
         stands("((((1)))+(((1)))+(((1))))");
         stands("(((((1)))))*(((((1)))))");
-        stands("((((((1)))))".substring(1));
         falls("((((1)+((1))))", 14);
         falls("(((((1)+(1)+((1", 13);
     }
