@@ -8,7 +8,7 @@ final class Probe {
         this.x = x;
     }
 
-    /** Some 350 calls at most: the scene has the others of the 512. */
+    /** Some 300 calls at most: the scene has the others of the 512. */
     static long[] all(FerryForAlone x) {
         Probe probe = new Probe(x);
         probe.strand();
