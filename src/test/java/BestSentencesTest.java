@@ -146,6 +146,9 @@ public final class BestSentencesTest {
         due("over", x.stand(1, 0), 22);
         x.bay(1, 0);
         due("the ferry being there", x.stand(0, 0), -3);
+        x.bay(1, 99);
+        due("ahead of a -1 that is an answer", x.stand(0, 1), -3);
+        due("of one who is over", x.stand(1, 1), -1);
         x.bay(1, 1);
         x.hour();
         due("not in the boat any more", x.stand(0, 0), 22);
@@ -175,6 +178,9 @@ public final class BestSentencesTest {
         FerryForAlone y = Check.under("gaps 99*(place<63);likes 0;walks 0;", 0, 9, 0, 30);
         due("which", y.stand(0, 0), 63);
         due("behind how many", y.stand(0, 1), 5);
+        FerryForAlone z = Check.under("gaps 99*(place<64);likes 0;walks 0;", 0, 9, 0, 30);
+        due("behind 63 there is none", z.stand(0, 0), -1);
+        due("behind 63 there is none", z.stand(0, 1), -1);
     }
 
     @Holds("promise 17: behind 60 hours; -1: by none")
@@ -382,6 +388,24 @@ public final class BestSentencesTest {
         due("one seen", x.gap(0), -1);
         x.put(1, 0, 9);
         due("two seen", x.gap(0), 12);
+    }
+
+    @Holds("promise 20: of two who are seen: neither may be hidden, be it at the lesser or the greater place")
+    static void p20BothSeen() {
+        for (int p = 0; p < 2; p++) {
+            FerryForAlone x = Check.strand(0, 10, 0, 20);
+            x.put(p, 1, 1);
+            due("which, " + p + " being hidden", x.gap(0), -1);
+            due("how far, " + p + " being hidden", x.gap(1), -1);
+        }
+    }
+
+    @Holds("promise 20: nobody seen between, whatever number is the one between")
+    static void p20WhoIsBetween() {
+        due("the first", Check.strand(0, 20, 0, 10, 0, 40).gap(0), 2);
+        due("the second", Check.strand(0, 10, 0, 20, 0, 40).gap(0), 12);
+        due("the last", Check.strand(0, 10, 0, 40, 0, 20).gap(0), 21);
+        due("the first, how far", Check.strand(0, 20, 0, 10, 0, 40).gap(1), 20);
     }
 
     @Holds("promise 20: how far 0 .. 63")

@@ -228,8 +228,8 @@ public final class HostSentencesTest {
         }
     }
 
-    @Holds("promise 34: bytes above 127 and shorts above 32767 are below 0")
-    static void p34BelowZero() {
+    @Holds("promise 34: what a sheet tells is told by the lowest bits alone")
+    static void p34Told() {
         for (int sort = 0; sort < 3; sort++) {
             FerryForAlone x = Check.strand(0, 31);
             x.sheet(0, sort, 1);

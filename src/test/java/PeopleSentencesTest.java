@@ -539,6 +539,14 @@ public final class PeopleSentencesTest {
         Sentences.each("told(0, what)", what -> x.told(0, what), -7, FAR_OFF);
     }
 
+    @Holds("promise 11: -7 ahead of a -1 that is an answer")
+    static void p11WhatOfOneAtNone() {
+        FerryForAlone x = oneInTheBoat();
+        due("told(0, 9)", x.told(0, 9), -1);
+        due("told(0, 10)", x.told(0, 10), -7);
+        due("told(0, -1)", x.told(0, -1), -7);
+    }
+
     @Holds("promise 11: none such -5, ahead of -7")
     static void p11NoneSuch() {
         FerryForAlone x = six();

@@ -35,7 +35,8 @@ final class Sentences {
         if (sentence.startsWith("promise ")) {
             named[Integer.parseInt(sentence.substring(8, sentence.indexOf(':')))] = true;
         } else {
-            due("a sentence of the terms", sentence.startsWith("the terms: ") ? 1 : 0, 1);
+            boolean known = sentence.startsWith("the terms: ") || sentence.startsWith("what it is: ");
+            due("a sentence of the document", known ? 1 : 0, 1);
         }
     }
 

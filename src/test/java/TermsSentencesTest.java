@@ -33,6 +33,16 @@ public final class TermsSentencesTest {
         return x.told(0, 7) - 1000;
     }
 
+    @Holds("what it is: an object is used for 512 calls, and the last of them still answers")
+    static void lastCall() {
+        FerryForAlone x = Check.strand(0, 30, 0, 31);
+        for (int call = 2; call < 511; call++) {
+            x.hour();
+        }
+        due("waited", x.told(0, 2), 99);
+        due("the 512th call", x.count(1), 509);
+    }
+
     // ---- people
 
     @Holds("the terms: in thought the hour may pass 9999")

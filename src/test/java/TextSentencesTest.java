@@ -317,6 +317,9 @@ public final class TextSentencesTest {
         fault("gaps 0;likes 0;walks 0;0", 23);
         fault("gaps 0;likes 0;walks 0;place", 23);
         fault("gaps 0;likes 0;walks 0;)", 23);
+        fault("gaps 0;likes 0;walks 0;12345", 23);
+        fault("gaps 0;likes 0;walks 0;xyz", 23);
+        fault("gaps 0;likes 0;walks 0;and", 23);
         due("blanks may", Check.read(new FerryForAlone(), "gaps 0;likes 0;walks 0; \n "), 1);
     }
 
@@ -335,6 +338,7 @@ public final class TextSentencesTest {
     static void or() {
         says("0 or 0", 0);
         says("0 or 5", 1);
+        says("1 or 2", 1);
         says("5 or 0", 1);
         says("-1 or 0", 1);
         says("0 or 0 or 0", 0);
@@ -348,6 +352,7 @@ public final class TextSentencesTest {
     @Holds("the terms: NOT { and NOT }: one, two, three; and ahead of or")
     static void and() {
         says("5 and 6", 1);
+        says("1 and 2", 1);
         says("5 and 0", 0);
         says("0 and 5", 0);
         says("-1 and 1", 1);
